@@ -16,8 +16,16 @@ final class Check {
         try {
             return String.valueOf(call.answer());
         } catch (RuntimeException e) {
-            return "throws." + e.getClass().getSimpleName();
+            return thrown(e);
         }
+    }
+
+    /** An exception by its name; one that the machine or its library throws by itself is never due. */
+    static String thrown(Throwable e) {
+        StackTraceElement[] trace = e.getStackTrace();
+        boolean isOfLibrary = trace.length > 0 && trace[0].getClassName().contains(".");
+        boolean isOfDivision = "/ by zero".equals(e.getMessage());
+        return (isOfLibrary || isOfDivision ? "machine." : "throws.") + e.getClass().getSimpleName();
     }
 
     static void due(Object want, String what, Call call) {

@@ -182,7 +182,7 @@ public final class ModelTest {
             Method method = object.getClass().getDeclaredMethod(name, types);
             return String.valueOf(method.invoke(object, values));
         } catch (InvocationTargetException e) {
-            return "throws." + e.getCause().getClass().getSimpleName();
+            return Check.thrown(e.getCause());
         } catch (ReflectiveOperationException e) {
             return "no such method";
         }

@@ -231,6 +231,25 @@ public final class RoundTest {
         }
         Check.due(0, "saving of two streets apart", () -> star.saving(0, 1));
         Check.noSuch("bestMerge of two streets apart", () -> star.bestMerge());
+        Check.noSuch("bestMerge of a way that leads past the post office", () -> oneSaved(2).bestMerge());
+        Check.due(1, "bestMerge: 1 is greater than 0", () -> oneSaved(1).bestMerge());
+    }
+
+    /** Two streets of the length 1 that begin and end at the post office, and a street from one to the other. */
+    private static Candleford oneSaved(int between) {
+        Candleford x = new Candleford();
+        x.addPlace();
+        x.addPlace();
+        x.addStreet(0, 1, 1, true);
+        x.addStreet(2, 0, 1, true);
+        x.addStreet(1, 2, between, true);
+        for (int street = 0; street < 2; street++) {
+            x.addHouse(street, 0, 0);
+            x.addRound(200);
+            x.assign(street, street);
+            x.letters(street, 1);
+        }
+        return x;
     }
 
     private static void bestMergeOfSeveral() {

@@ -10,6 +10,7 @@ public final class WalkTest {
         equalWalks();
         equalWays();
         farAway();
+        eachRoundItsOwn();
         time();
         walkTo();
         walkToRefused();
@@ -274,6 +275,28 @@ public final class WalkTest {
         Check.due(792 + 99 + 13 * 98, "far away: walkTo the last", () -> x.walkTo(7));
         Check.due(792 + 99 + 13 * 98 + 792 + 16, "far away: walkTime", () -> x.walkTime(0));
         Check.due(false, "far away: isInTime", () -> x.isInTime(0));
+    }
+
+    /** Each call answers for its round, whatever was asked before of another one. */
+    private static void eachRoundItsOwn() {
+        Candleford x = village();
+        x.addRound(90);
+        x.assign(2, 1);
+        x.letters(0, 1);
+        x.letters(2, 1);
+        x.letters(4, 1);
+        for (int i = 0; i < 2; i++) {
+            Check.due(4, "walkPlaces of the one", () -> x.walkPlaces(0));
+            Check.due(3, "walkPlaces of the other", () -> x.walkPlaces(1));
+            Check.due(1, "walkAt of the one", () -> x.walkAt(0, 1));
+            Check.due(2, "walkAt of the other", () -> x.walkAt(1, 1));
+            Check.due(0, "passAt of the one", () -> x.passAt(0, 0));
+            Check.due(4, "passAt of the other", () -> x.passAt(1, 0));
+            Check.due(15, "walkTo of the one", () -> x.walkTo(2));
+            Check.due(29, "walkTo of the other", () -> x.walkTo(4));
+            Check.due(45, "walkLength of the one", () -> x.walkLength(0));
+            Check.due(30, "walkLength of the other", () -> x.walkLength(1));
+        }
     }
 
     private static void time() {
