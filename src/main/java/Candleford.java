@@ -751,13 +751,34 @@ public final class Candleford {
                 cells[row * columns + column] = length;
             }
         }
+
+        void clearRow(int row) {
+            for (int column = 0; column < columns; column++) {
+                put(row, column, NO_WAY);
+            }
+        }
+
+        /** Puts a length plus the row of another table into a row, where this is less than what stands there. */
+        void lowerRow(int row, int length, Grid other, int otherRow) {
+            if (row < 0 || row >= rows || otherRow < 0 || otherRow >= other.rows || columns != other.columns) {
+                return;
+            }
+            int cell = row * columns;
+            int otherCell = otherRow * columns;
+            for (int column = 0; column < columns; column++) {
+                int sum = length + other.cells[otherCell + column];
+                if (sum < cells[cell + column]) {
+                    cells[cell + column] = sum;
+                }
+            }
+        }
     }
 
     /** The shortest ways between places. */
     static final class Ways {
         /** The least length of one street between two places. */
         private final Grid direct;
-        /** The distances, measured anew with each street. */
+        /** The distances, measured anew with each street; as long back as forth. */
         final Grid least;
         private final Grid reached;
 
@@ -898,7 +919,7 @@ public final class Candleford {
         }
 
         private int allNeeds() {
-            return (1 << needs) - 1;
+            return needs > MAX_PASSES ? 0 : (1 << needs) - 1;
         }
 
         boolean isPossible() {
@@ -910,32 +931,25 @@ public final class Candleford {
             return needs <= MAX_PASSES;
         }
 
-        /** Only for a walk that is possible, as all that follow. */
+        /** Only for a walk that is possible, as all that follow. Fills the table a row at a time, as a run is long. */
         int leastLength() {
-            for (int place = 0; place < MAX_PLACES; place++) {
-                rest.put(0, place, ways.least.at(place, POST_OFFICE));
-            }
-            for (int left = 1; left <= allNeeds() && left < 1 << MAX_PASSES; left++) {
-                for (int place = 0; place < MAX_PLACES; place++) {
-                    rest.put(left, place, leastRest(left, place));
+            rest.clearRow(0);
+            rest.lowerRow(0, 0, ways.least, POST_OFFICE);
+            for (int left = 1; left <= allNeeds(); left++) {
+                rest.clearRow(left);
+                for (int i = 0; i < choices.size(); i++) {
+                    Pass pass = choices.get(i);
+                    if ((left & pass.need) != 0) {
+                        rest.lowerRow(left, restWith(pass, left), ways.least, pass.from);
+                    }
                 }
             }
             return rest.at(allNeeds(), POST_OFFICE);
         }
 
-        private int leastRest(int left, int place) {
-            int best = NO_WAY;
-            for (int i = 0; i < choices.size(); i++) {
-                Pass pass = choices.get(i);
-                if ((left & pass.need) != 0) {
-                    best = Math.min(best, restWith(pass, left, place));
-                }
-            }
-            return best;
-        }
-
-        private int restWith(Pass pass, int left, int place) {
-            return ways.least.at(place, pass.from) + pass.length + rest.at(left & ~pass.need, pass.to);
+        /** What remains from the begin of a pass on. */
+        private int restWith(Pass pass, int left) {
+            return pass.length + rest.at(left & ~pass.need, pass.to);
         }
 
         int leastLengthByTrying() {
@@ -973,7 +987,7 @@ public final class Candleford {
                 if (pass == null) {
                     return;
                 }
-                pass.begun = length - rest.at(left & ~pass.need, pass.to) - pass.length;
+                pass.begun = length - restWith(pass, left);
                 goTo(pass.from, place);
                 comeTo(pass.to);
                 made.add(pass);
@@ -987,7 +1001,8 @@ public final class Candleford {
         private Pass bestPass(int left, int place) {
             for (int i = 0; i < choices.size(); i++) {
                 Pass pass = choices.get(i);
-                if ((left & pass.need) != 0 && restWith(pass, left, place) == rest.at(left, place)) {
+                int length = ways.least.at(place, pass.from) + restWith(pass, left);
+                if ((left & pass.need) != 0 && length == rest.at(left, place)) {
                     return pass;
                 }
             }

@@ -13,7 +13,7 @@ import java.util.TreeSet;
 import java.util.regex.Matcher;
 import java.util.regex.Pattern;
 
-/** The face as the document writes it, and those rules of LANGUAGE.md that a look at the class and its text can tell. */
+/** The face as the document writes it, and those rules of LANGUAGE.md that a look at the class can tell. */
 public final class FaceTest {
     private static final Path DOCUMENT = Path.of("../shared/DOC.md");
     private static final Path SOURCE = Path.of("src/main/java/Candleford.java");
