@@ -28,6 +28,11 @@ final class Check {
         return (isOfLibrary || isOfDivision ? "machine." : "throws.") + e.getClass().getSimpleName();
     }
 
+    /** The ints next to a range, and the least and the greatest int. */
+    static int[] outside(int least, int greatest) {
+        return new int[] {Integer.MIN_VALUE, least - 1, greatest + 1, Integer.MAX_VALUE};
+    }
+
     static void due(Object want, String what, Call call) {
         String got = answerOf(call);
         checks++;

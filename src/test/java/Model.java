@@ -15,6 +15,8 @@ final class Model {
     /** A parcel: house, weight, deadline, 1 if delivered. */
     private final List<int[]> parcels = new ArrayList<>();
     private final List<Integer> limits = new ArrayList<>();
+    /** The paths that were sought since the last street was added, as to seek one is slow; an empty one is no path. */
+    private int[][][] paths = new int[10][10][];
     private int places = 1;
     private int bag = 5;
     private int clock = 0;
@@ -62,6 +64,7 @@ final class Model {
         require(first != second && length >= 1 && length <= 99, argument());
         require(streets.size() < 16, state());
         streets.add(new int[] {first, second, length, isWide ? 1 : 0, -1});
+        paths = new int[10][10][];
         return streets.size() - 1;
     }
 
@@ -189,10 +192,13 @@ final class Model {
 
     /** The first shortest path in the order of places, null if there is none. */
     private int[] path(int from, int to) {
-        int[][] best = new int[1][];
-        int[] least = {Integer.MAX_VALUE};
-        seek(new int[] {from}, to, 0, best, least);
-        return best[0];
+        if (paths[from][to] == null) {
+            int[][] best = {new int[0]};
+            int[] least = {Integer.MAX_VALUE};
+            seek(new int[] {from}, to, 0, best, least);
+            paths[from][to] = best[0];
+        }
+        return paths[from][to].length == 0 ? null : paths[from][to];
     }
 
     private void seek(int[] path, int to, int length, int[][] best, int[] least) {
