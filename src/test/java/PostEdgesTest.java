@@ -215,6 +215,10 @@ public final class PostEdgesTest {
         x.setBag(48);
         Check.due(true, "isHeavy with a smaller bag", () -> x.isHeavy(0));
         Check.due(0, "nextParcel with a smaller bag", () -> x.nextParcel());
+        x.dispatch();
+        Check.due(true, "isHeavy when it is delivered", () -> x.isHeavy(0));
+        x.setBag(49);
+        Check.due(false, "isHeavy when it is delivered, with a bag as great", () -> x.isHeavy(0));
     }
 
     /** "A house is due if it has letters". */

@@ -216,6 +216,7 @@ public final class RefusedTest {
         refused(STATE, FULL, "parcel", x -> x.parcel(0, 1, 1));
         refused(STATE, FULL, "parcel, the heaviest", x -> x.parcel(29, 99, 999));
         refused(STATE, FULL, "letters, the 100th", x -> x.letters(29, 1));
+        refused(STATE, FULL, "letters, 20 to 80", x -> x.letters(0, 20));
         refused(STATE, FULL, "letters, 20 to 99", x -> x.letters(29, 20));
     }
 

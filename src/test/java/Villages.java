@@ -88,7 +88,7 @@ final class Villages {
         }
     }
 
-    /** No more of anything; the house 29 can have no more letters. */
+    /** No more of anything; the house 0 has 80 letters, and the house 29 as many as it can have. */
     static Candleford full() {
         Candleford x = ofPlaces(10);
         for (int street = 0; street < 16; street++) {
@@ -112,6 +112,9 @@ final class Villages {
         }
         for (int i = 0; i < 5; i++) {
             x.letters(29, i == 0 ? 19 : 20);
+        }
+        for (int i = 0; i < 3; i++) {
+            x.letters(0, 20);
         }
         return x;
     }

@@ -393,32 +393,32 @@ public final class WalkEdgesTest {
 
     /** "The walk of a round is the one with the least length", by one. */
     private static void leastLength() {
+        Candleford around = forked(19);
+        lengthIs(around, 0, 39);
+        passesAre(around, 0, 0, 3);
+        placesAre(around, 0, 0, 1, 2, 0);
+        Candleford equal = forked(20);
+        lengthIs(equal, 0, 40);
+        passesAre(equal, 0, 0, 2);
+        Candleford back = forked(21);
+        lengthIs(back, 0, 40);
+        passesAre(back, 0, 0, 2);
+        placesAre(back, 0, 0, 1, 0, 2, 0);
+    }
+
+    /** Two needed narrow streets of the length 10 from the post office, and a street between their other ends. */
+    private static Candleford forked(int between) {
         Candleford x = Villages.ofPlaces(3);
         x.addStreet(0, 1, 10, false);
         x.addStreet(0, 2, 10, false);
-        x.addStreet(1, 2, 19, true);
+        x.addStreet(1, 2, between, true);
         x.addRound(999);
         for (int street = 0; street < 2; street++) {
             x.addHouse(street, 0, 1);
             x.assign(street, 0);
             x.letters(street, 1);
         }
-        lengthIs(x, 0, 39);
-        passesAre(x, 0, 0, 3);
-        placesAre(x, 0, 0, 1, 2, 0);
-        Candleford y = Villages.ofPlaces(3);
-        y.addStreet(0, 1, 10, false);
-        y.addStreet(0, 2, 10, false);
-        y.addStreet(1, 2, 21, true);
-        y.addRound(999);
-        for (int street = 0; street < 2; street++) {
-            y.addHouse(street, 0, 1);
-            y.assign(street, 0);
-            y.letters(street, 1);
-        }
-        lengthIs(y, 0, 40);
-        passesAre(y, 0, 0, 2);
-        placesAre(y, 0, 0, 1, 0, 2, 0);
+        return x;
     }
 
     /** "of several, the one that has the pass with the lower number where its passes first differ." */
@@ -618,8 +618,8 @@ public final class WalkEdgesTest {
         Candleford x = parallels(true, true, true, true);
         for (int needed = 0; needed <= 8; needed++) {
             int last = needed + needed % 2;
-            Check.due(last + 1, "walkPlaces with " + needed, () -> x.walkPlaces(0));
             Check.due(0, "walkAt, the last place with " + needed, () -> x.walkAt(0, last));
+            Check.due(last + 1, "walkPlaces with " + needed, () -> x.walkPlaces(0));
             Check.due(0, "walkAt, the first place with " + needed, () -> x.walkAt(0, 0));
             for (int index : Check.outside(0, last)) {
                 Check.badIndex("walkAt with " + needed + " the place " + index, () -> x.walkAt(0, index));
