@@ -283,6 +283,14 @@ public final class PostEdgesTest {
         x.assign(0, 1);
         Check.due(0, "due without the street", () -> x.due(0));
         Check.due(30, "due of another round with the street", () -> x.due(1));
+        Candleford y = Villages.ofParallelStreets(0, 1, 1, 2, 2, 2, 3, 3, 3, 3);
+        for (int round = 0; round < 4; round++) {
+            int number = round;
+            Check.due(round + 1, "due of the round " + round + " of four", () -> y.due(number));
+        }
+        y.deliver(2);
+        Check.due(0, "due of the round 2 after it", () -> y.due(2));
+        Check.due(4, "due of the round 3 after it", () -> y.due(3));
     }
 
     /** newDay "Returns the number of houses that were due." */
@@ -298,6 +306,12 @@ public final class PostEdgesTest {
         Check.due(0, "newDay again", () -> x.newDay());
         x.parcel(0, 6, 1);
         Check.due(0, "newDay, a heavy parcel", () -> x.newDay());
+        x.parcel(0, 5, 1);
+        x.parcel(29, 5, 1);
+        Check.due(2, "newDay, two houses with a parcel alone", () -> x.newDay());
+        x.parcel(0, 5, 1);
+        x.deliver(0);
+        Check.due(0, "newDay, a parcel that is delivered", () -> x.newDay());
         x.parcel(0, 5, 1);
         x.parcel(0, 5, 1);
         x.letters(0, 5);
@@ -420,6 +434,13 @@ public final class PostEdgesTest {
         }
         Check.due(99.0, "meanLetters, 99 for each of thirty", () -> x.meanLetters());
         Check.due(2970.0 / 30.0, "meanLetters, 2970 of thirty", () -> x.meanLetters());
+        for (int house = 0; house < 30; house += 29) {
+            x.newDay();
+            x.letters(house, 4);
+            Check.due(4.0, "meanLetters of the house " + house + " alone", () -> x.meanLetters());
+            x.parcel(29 - house, 5, 9);
+            Check.due(2.0, "meanLetters with a parcel at the other end", () -> x.meanLetters());
+        }
     }
 
     /** "An object is used for at most 512 calls": the last one of a run answers as the first. */

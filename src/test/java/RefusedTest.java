@@ -314,12 +314,14 @@ public final class RefusedTest {
     }
 
     private static void questionsChangeNothing() {
-        for (Shown.Part question : Shown.QUESTIONS) {
-            for (Shown.Part part : Shown.PARTS) {
-                Candleford asked = Villages.ordinary();
-                Shown.of(asked, question);
-                Check.due(Shown.of(Villages.ordinary(), part), "what is shown after questions",
-                        () -> Shown.of(asked, part));
+        for (Make make : new Make[] {Villages::ordinary, Villages::evening}) {
+            for (Shown.Part question : Shown.QUESTIONS) {
+                for (Shown.Part part : Shown.PARTS) {
+                    Candleford asked = make.village();
+                    Shown.of(asked, question);
+                    Check.due(Shown.of(make.village(), part), "what is shown after questions",
+                            () -> Shown.of(asked, part));
+                }
             }
         }
     }

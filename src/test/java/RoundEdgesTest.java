@@ -11,6 +11,7 @@ public final class RoundEdgesTest {
         deliverItsStreets();
         deliverWithoutWalk();
         walkedSum();
+        walkedOfManyDays();
         savingOfLengths();
         savingOfNothing();
         savingWithoutWalk();
@@ -185,6 +186,22 @@ public final class RoundEdgesTest {
         Check.due(100L, "walked, not by the van", () -> x.walked());
     }
 
+    /** As much as a short or a char can't hold: 990 on each of a hundred days. */
+    private static void walkedOfManyDays() {
+        Candleford x = Villages.ofLongRow();
+        x.addHouse(4, 0, 0);
+        x.addRound(999);
+        x.assign(4, 0);
+        for (int day = 1; day <= 100; day++) {
+            long sum = 990L * day;
+            x.letters(0, 1);
+            x.deliver(0);
+            Check.due(sum, "walked on the day " + day, () -> x.walked());
+            x.newDay();
+        }
+        Check.due(99000L, "walked of a hundred days", () -> x.walked());
+    }
+
     /** "the sum of the lengths of both walks minus the length of the walk that a round with all their streets has". */
     private static void savingOfLengths() {
         Candleford x = row(1, 1, 1, 1);
@@ -281,6 +298,23 @@ public final class RoundEdgesTest {
         Check.due(0, "mergeInto the other round", () -> x.mergeInto(1, 2));
         Check.due(1, "roundOf a street that was of neither", () -> x.roundOf(14));
         Check.due(1, "assign back", () -> x.assign(14, 2));
+        Candleford y = Villages.ofPlaces(2);
+        y.addRound(9);
+        y.addRound(9);
+        for (int street = 0; street < 16; street++) {
+            y.addStreet(0, 1, 5, true);
+            y.assign(street, street % 15 == 0 ? 1 : 0);
+        }
+        y.mergeInto(0, 1);
+        for (int street = 0; street < 16; street++) {
+            int number = street;
+            Check.due(0, "roundOf " + street + " when all are merged", () -> y.roundOf(number));
+        }
+        y.mergeInto(1, 0);
+        for (int street = 0; street < 16; street++) {
+            int number = street;
+            Check.due(1, "roundOf " + street + " when all are merged back", () -> y.roundOf(number));
+        }
     }
 
     /** mergeInto "Returns the saving." */

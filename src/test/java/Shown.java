@@ -44,17 +44,17 @@ final class Shown {
         return answer.startsWith("throws.") || answer.startsWith("machine.");
     }
 
-    private int count(Check.Call call) {
-        return Integer.parseInt(ask("count", call));
+    private int count(String what, Check.Call call) {
+        return Integer.parseInt(ask(what, call));
     }
 
     private void askVillage() {
         ask("places", () -> x.places());
         ask("houses", () -> x.houses());
-        int streets = count(() -> x.streets());
+        int streets = count("streets", () -> x.streets());
         for (int i = 0; i <= streets; i++) {
             int street = i;
-            ask("roundOf", () -> x.roundOf(street));
+            ask("roundOf " + street, () -> x.roundOf(street));
             askHouses(street, 0);
             askHouses(street, 1);
         }
@@ -64,33 +64,34 @@ final class Shown {
         boolean isThere = true;
         for (int i = 0; isThere; i++) {
             int rank = i;
-            isThere = !isThrown(ask("houseAt", () -> x.houseAt(street, side, rank)));
+            String what = "houseAt " + street + " " + side + " " + rank;
+            isThere = !isThrown(ask(what, () -> x.houseAt(street, side, rank)));
         }
     }
 
     private void askWays() {
-        int places = count(() -> x.places());
+        int places = count("places", () -> x.places());
         for (int i = 0; i < places; i++) {
             for (int j = i; j < places; j++) {
                 int one = i;
                 int other = j;
-                ask("distance", () -> x.distance(one, other));
-                ask("distanceByRounds", () -> x.distanceByRounds(other, one));
+                ask("distance " + one + " " + other, () -> x.distance(one, other));
+                ask("distanceByRounds " + other + " " + one, () -> x.distanceByRounds(other, one));
             }
         }
     }
 
     private void askPost() {
-        int houses = count(() -> x.houses());
+        int houses = count("houses", () -> x.houses());
         for (int i = 0; i <= houses; i++) {
             int house = i;
-            ask("lettersOf", () -> x.lettersOf(house));
-            ask("isDue", () -> x.isDue(house));
-            ask("walkTo", () -> x.walkTo(house));
+            ask("lettersOf " + house, () -> x.lettersOf(house));
+            ask("isDue " + house, () -> x.isDue(house));
+            ask("walkTo " + house, () -> x.walkTo(house));
         }
         for (int i = 0; i < ROUNDS; i++) {
             int round = i;
-            ask("due", () -> x.due(round));
+            ask("due " + round, () -> x.due(round));
         }
         ask("meanLetters", () -> x.meanLetters());
     }
@@ -98,22 +99,22 @@ final class Shown {
     private void askWalks() {
         for (int i = 0; i < ROUNDS; i++) {
             int round = i;
-            ask("needed", () -> x.needed(round));
-            ask("hasWalk", () -> x.hasWalk(round));
-            ask("walkLength", () -> x.walkLength(round));
-            ask("lengthByTrying", () -> x.lengthByTrying(round));
-            ask("walkPlaces", () -> x.walkPlaces(round));
-            ask("walkTime", () -> x.walkTime(round));
-            ask("isInTime", () -> x.isInTime(round));
+            ask("needed " + round, () -> x.needed(round));
+            ask("hasWalk " + round, () -> x.hasWalk(round));
+            ask("walkLength " + round, () -> x.walkLength(round));
+            ask("lengthByTrying " + round, () -> x.lengthByTrying(round));
+            ask("walkPlaces " + round, () -> x.walkPlaces(round));
+            ask("walkTime " + round, () -> x.walkTime(round));
+            ask("isInTime " + round, () -> x.isInTime(round));
             boolean isPass = true;
             for (int j = 0; isPass; j++) {
                 int index = j;
-                isPass = !isThrown(ask("passAt", () -> x.passAt(round, index)));
+                isPass = !isThrown(ask("passAt " + round + " " + index, () -> x.passAt(round, index)));
             }
             boolean isPlace = true;
             for (int j = 0; isPlace; j++) {
                 int index = j;
-                isPlace = !isThrown(ask("walkAt", () -> x.walkAt(round, index)));
+                isPlace = !isThrown(ask("walkAt " + round + " " + index, () -> x.walkAt(round, index)));
             }
         }
     }
@@ -122,7 +123,7 @@ final class Shown {
         for (int pair = 0; pair < ROUNDS * ROUNDS; pair++) {
             int one = pair / ROUNDS;
             int other = pair % ROUNDS;
-            ask("saving", () -> x.saving(one, other));
+            ask("saving " + one + " " + other, () -> x.saving(one, other));
         }
         ask("bestMerge", () -> x.bestMerge());
     }
@@ -130,9 +131,9 @@ final class Shown {
     private void askVan() {
         for (int i = 0; i <= 20; i++) {
             int parcel = i;
-            ask("parcelState", () -> x.parcelState(parcel));
-            ask("isHeavy", () -> x.isHeavy(parcel));
-            ask("tripOf", () -> x.tripOf(parcel));
+            ask("parcelState " + parcel, () -> x.parcelState(parcel));
+            ask("isHeavy " + parcel, () -> x.isHeavy(parcel));
+            ask("tripOf " + parcel, () -> x.tripOf(parcel));
         }
         ask("nextParcel", () -> x.nextParcel());
         askSums();

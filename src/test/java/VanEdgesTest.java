@@ -19,6 +19,7 @@ public final class VanEdgesTest {
         greaterThanTheDeadline();
         halfRoundedDown();
         lateAtTheGreatestDeadline();
+        deliversOneParcel();
         dispatchWithoutDistance();
         dispatchOfNone();
         lateOfAllDays();
@@ -317,6 +318,31 @@ public final class VanEdgesTest {
             boolean isLate = offset == 14;
             Check.due(clock, "vanClock", () -> x.vanClock());
             Check.due(isLate, "dispatch, " + (clock + 330) + " and the deadline 999", () -> x.dispatch());
+        }
+    }
+
+    /** "Lets the van deliver the parcel that it takes next": other post of the same house waits still. */
+    private static void deliversOneParcel() {
+        Candleford x = ofOffsets(6);
+        x.letters(0, 9);
+        x.parcel(0, 5, 1);
+        x.parcel(0, 6, 2);
+        x.parcel(0, 6, 1);
+        x.parcel(0, 6, 3);
+        String[] states = {"www", "wdw", "ddw", "ddd"};
+        int[] next = {2, 1, 3};
+        for (int trips = 0; trips <= 3; trips++) {
+            String due = states[trips];
+            Check.due(due, "parcelState of the heavy ones after " + trips,
+                    () -> "" + x.parcelState(1) + x.parcelState(2) + x.parcelState(3));
+            Check.due("w", "parcelState of the one that is not heavy", () -> x.parcelState(0));
+            Check.due(9, "lettersOf the house", () -> x.lettersOf(0));
+            Check.due(true, "isDue, the house", () -> x.isDue(0));
+            if (trips < 3) {
+                int number = next[trips];
+                Check.due(number, "nextParcel", () -> x.nextParcel());
+                x.dispatch();
+            }
         }
     }
 

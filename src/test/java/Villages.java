@@ -88,6 +88,32 @@ final class Villages {
         }
     }
 
+    /**
+     * What ordinary() has not: the first parcels are delivered, and the last ones wait; the last house has letters, and
+     * the last street belongs to a round.
+     */
+    static Candleford evening() {
+        Candleford x = ofPlaces(2);
+        x.addStreet(0, 1, 10, true);
+        x.addStreet(0, 1, 7, false);
+        x.addHouse(0, 0, 3);
+        x.addHouse(1, 1, 7);
+        x.addRound(50);
+        x.addRound(20);
+        x.assign(0, 0);
+        x.assign(1, 1);
+        x.letters(0, 1);
+        x.parcel(0, 5, 9);
+        x.deliver(0);
+        x.parcel(0, 6, 1);
+        x.dispatch();
+        x.letters(0, 2);
+        x.letters(1, 4);
+        x.parcel(1, 5, 9);
+        x.parcel(0, 9, 50);
+        return x;
+    }
+
     /** No more of anything; the house 0 has 80 letters, and the house 29 as many as it can have. */
     static Candleford full() {
         Candleford x = ofPlaces(10);

@@ -5,6 +5,7 @@
 public final class WalkEdgesTest {
     public static void main(String[] args) {
         wholeStreet();
+        passesGoFromEndToEnd();
         wideForward();
         wideBackward();
         narrowBothSides();
@@ -40,6 +41,7 @@ public final class WalkEdgesTest {
         walkToOnlyDue();
         walkToOfNoRound();
         walkToWithoutWalk();
+        eachRoundAnew();
         Check.end();
     }
 
@@ -106,6 +108,32 @@ public final class WalkEdgesTest {
                 lengthIs(x, 0, 20);
                 placesAre(x, 0, 0, 1, 0);
             }
+        }
+    }
+
+    /** "A pass forward goes from the first end to the second one, a pass backward the other way." */
+    private static void passesGoFromEndToEnd() {
+        for (int first = 1; first <= 2; first++) {
+            int second = 3 - first;
+            Candleford x = Villages.ofPlaces(3);
+            x.addStreet(first, second, 9, true);
+            x.addStreet(0, 1, 1, true);
+            x.addStreet(2, 0, 1, true);
+            x.addHouse(0, 0, 2);
+            x.addHouse(0, 1, 2);
+            x.addRound(99);
+            x.assign(0, 0);
+            x.letters(0, 1);
+            lengthIs(x, 0, 11);
+            passesAre(x, 0, 0);
+            placesAre(x, 0, 0, first, second, 0);
+            Check.due(3, "walkTo, forward", () -> x.walkTo(0));
+            x.newDay();
+            x.letters(1, 1);
+            lengthIs(x, 0, 11);
+            passesAre(x, 0, 1);
+            placesAre(x, 0, 0, second, first, 0);
+            Check.due(8, "walkTo, backward", () -> x.walkTo(1));
         }
     }
 
@@ -827,5 +855,33 @@ public final class WalkEdgesTest {
         Check.unsupported("walkTo, not due and no way", () -> x.walkTo(1));
         x.addStreet(2, 0, 1, true);
         Check.due(14, "walkTo over a new street", () -> x.walkTo(0));
+    }
+
+    /** "The walk of a round": what was asked of another one with passes at the same places does not matter. */
+    private static void eachRoundAnew() {
+        Candleford x = Villages.ofPlaces(10);
+        int[][] streets = {{0, 9, 5}, {9, 0, 5}, {0, 9, 50}, {9, 8, 99}, {8, 0, 60}};
+        x.addRound(999);
+        x.addRound(999);
+        for (int street = 0; street < streets.length; street++) {
+            x.addStreet(streets[street][0], streets[street][1], streets[street][2], true);
+        }
+        for (int street = 0; street < 4; street++) {
+            x.addHouse(street, 0, 1);
+            x.assign(street, street / 2);
+            x.letters(street, 1);
+        }
+        for (int i = 0; i < 2; i++) {
+            lengthIs(x, 0, 10);
+            lengthIs(x, 1, 209);
+            passesAre(x, 0, 0, 2);
+            passesAre(x, 1, 4, 6);
+            placesAre(x, 0, 0, 9, 0);
+            placesAre(x, 1, 0, 9, 8, 0);
+            Check.due(6, "walkTo of the one", () -> x.walkTo(1));
+            Check.due(51, "walkTo of the other", () -> x.walkTo(3));
+            Check.due(14, "walkTime of the one", () -> x.walkTime(0));
+            Check.due(213, "walkTime of the other", () -> x.walkTime(1));
+        }
     }
 }
