@@ -23,10 +23,11 @@ public final class RefusedTest {
     private static final Kind EMPTY = new Kind("empty", Candleford::new, 1, 0, 0, 0, 0);
     private static final Kind ORDINARY = new Kind("ordinary", Villages::ordinary, 4, 4, 6, 3, 5);
     private static final Kind FULL = new Kind("full", Villages::full, 10, 16, 30, 4, 20);
-    private static final Kind STUCK = new Kind("stuck", Villages::stuck, 4, 16, 26, 4, 3);
-    private static final Kind TIGHT = new Kind("tight", Villages::tight, 3, 2, 2, 2, 0);
-    private static final Kind PARALLEL =
-            new Kind("parallel", () -> Villages.ofParallelStreets(0, 0, 0, 0, 0, 1, 1, 1, 1), 2, 9, 9, 4, 0);
+    private static final Kind STUCK = new Kind("stuck", Villages::stuck, 4, 16, 26, 4, 4);
+    private static final Kind TIGHT = new Kind("tight", Villages::tight, 3, 2, 2, 2, 2);
+    private static final Kind PARALLEL = new Kind("parallel", Villages::fiveAndFour, 2, 9, 9, 4, 2);
+    private static final Kind NONE_DUE = new Kind("none due", Villages::noneDue, 2, 1, 2, 1, 2);
+    private static final Kind NO_TRIPS = new Kind("no trips", Villages::noTrips, 2, 1, 2, 1, 3);
 
     private static final String NO_SUCH = "throws.NoSuchElementException";
     private static final String ARGUMENT = "throws.IllegalArgumentException";
@@ -63,6 +64,7 @@ public final class RefusedTest {
         noWalkTogether();
         noMerge();
         vanRefused();
+        noneDue();
         questionsChangeNothing();
         Check.end();
     }
@@ -211,6 +213,8 @@ public final class RefusedTest {
         refused(STATE, FULL, "addStreet, the longest", x -> x.addStreet(9, 0, 99, false));
         refused(STATE, FULL, "addHouse", x -> x.addHouse(0, 0, 0));
         refused(STATE, FULL, "addHouse at the last street", x -> x.addHouse(15, 1, 16));
+        refused(STATE, STUCK, "addStreet where a place more can be", x -> x.addStreet(0, 1, 1, true));
+        refused(STATE, STUCK, "addRound where a place more can be", x -> x.addRound(1));
         refused(STATE, FULL, "addRound, the least limit", x -> x.addRound(1));
         refused(STATE, FULL, "addRound, the greatest limit", x -> x.addRound(999));
         refused(STATE, FULL, "parcel", x -> x.parcel(0, 1, 1));
@@ -275,10 +279,10 @@ public final class RefusedTest {
     }
 
     private static void notInTime() {
-        refused(STATE, TIGHT, "deliver, 22 minutes of 21", x -> x.deliver(0));
+        refused(STATE, TIGHT, "deliver, 23 minutes of 22", x -> x.deliver(0));
         refused(STATE, TIGHT, "deliver, 42 minutes of 41", x -> x.deliver(1));
-        refused(STATE, TIGHT, "mergeInto, 44 minutes of 21", x -> x.mergeInto(0, 1));
-        refused(STATE, TIGHT, "mergeInto, 44 minutes of 41", x -> x.mergeInto(1, 0));
+        refused(STATE, TIGHT, "mergeInto, 45 minutes of 22", x -> x.mergeInto(0, 1));
+        refused(STATE, TIGHT, "mergeInto, 45 minutes of 41", x -> x.mergeInto(1, 0));
     }
 
     private static void sameRounds() {
@@ -302,15 +306,21 @@ public final class RefusedTest {
     private static void noMerge() {
         refused(NO_SUCH, TIGHT, "bestMerge, none in time", x -> x.bestMerge());
         refused(NO_SUCH, PARALLEL, "bestMerge, nine together", x -> x.bestMerge());
+        refused(NO_SUCH, NONE_DUE, "bestMerge, no house due", x -> x.bestMerge());
     }
 
     private static void vanRefused() {
-        refused(UNSUPPORTED, STUCK, "tripOf, no way", x -> x.tripOf(0));
+        refused(UNSUPPORTED, STUCK, "tripOf, no way", x -> x.tripOf(1));
         refused(UNSUPPORTED, STUCK, "dispatch, no way", x -> x.dispatch());
-        refused(NO_SUCH, TIGHT, "nextParcel without parcels", x -> x.nextParcel());
-        refused(NO_SUCH, TIGHT, "dispatch without parcels", x -> x.dispatch());
-        refused(DIVISION, FULL, "lateShare before the first trip", x -> x.lateShare());
-        refused(DIVISION, STUCK, "lateShare before the first trip", x -> x.lateShare());
+        refused(NO_SUCH, TIGHT, "nextParcel, none waits that is heavy", x -> x.nextParcel());
+        refused(NO_SUCH, TIGHT, "dispatch, none waits that is heavy", x -> x.dispatch());
+        refused(DIVISION, NO_TRIPS, "lateShare before the first trip", x -> x.lateShare());
+    }
+
+    private static void noneDue() {
+        refused(DIVISION, NONE_DUE, "meanLetters, no house due", x -> x.meanLetters());
+        refused(UNSUPPORTED, NONE_DUE, "walkTo, no house due", x -> x.walkTo(0));
+        refused(INDEX, NONE_DUE, "passAt, no house due", x -> x.passAt(0, 0));
     }
 
     private static void questionsChangeNothing() {

@@ -29,6 +29,23 @@ final class Villages {
         return x;
     }
 
+    /**
+     * A day before, with another bag, a walk that was made and a parcel that was late, and the begin of this day, with
+     * the first parcel delivered. The house 0 is the only one with post, and its round is in time with it.
+     */
+    static void withPast(Candleford x) {
+        x.setBag(6);
+        x.letters(0, 1);
+        x.deliver(x.roundOf(0));
+        for (int trip = 0; trip < 3; trip++) {
+            x.parcel(0, 9, 1);
+            x.dispatch();
+        }
+        x.newDay();
+        x.parcel(0, 9, 1);
+        x.dispatch();
+    }
+
     /** Narrow streets of the length 5 from the post office to the place 1, a house with a letter at each. */
     static Candleford ofParallelStreets(int... roundOfEach) {
         Candleford x = ofPlaces(2);
@@ -130,7 +147,8 @@ final class Villages {
         for (int street = 0; street < 16; street++) {
             x.assign(street, street % 4);
         }
-        for (int parcel = 0; parcel < 20; parcel++) {
+        withPast(x);
+        for (int parcel = 1; parcel < 20; parcel++) {
             x.parcel(parcel, parcel % 2 == 0 ? 4 : 50, 10 + parcel);
         }
         for (int house = 0; house < 8; house++) {
@@ -148,7 +166,7 @@ final class Villages {
     /**
      * The round 0 needs one pass, the round 1 six to which no way leads, the round 2 nine, the round 3 six. The street
      * 15 belongs to no round. The houses 23 to 25 have no letters. No way leads to what the van takes next, the parcel
-     * 0.
+     * 1.
      */
     static Candleford stuck() {
         Candleford x = ofPlaces(4);
@@ -168,30 +186,75 @@ final class Villages {
             x.addHouse(street, 1, 2);
         }
         x.addHouse(15, 0, 0);
+        withPast(x);
         for (int house = 0; house < 23; house++) {
             x.letters(house, 1);
         }
         x.addHouse(0, 0, 1);
         x.addHouse(1, 0, 1);
         x.addHouse(7, 0, 1);
-        x.parcel(1, 6, 1);
+        x.parcel(1, 7, 1);
+        x.parcel(0, 7, 50);
         x.parcel(0, 6, 50);
-        x.parcel(0, 5, 50);
         return x;
     }
 
-    /** Two rounds, each of which is over its limit by one; each limit is in time for one of them. */
+    /**
+     * Two rounds, each of which is over its limit by one, and more so with the streets of the other. A parcel is
+     * delivered, and one waits that is not heavy.
+     */
     static Candleford tight() {
         Candleford x = ofPlaces(3);
         x.addStreet(0, 1, 10, true);
         x.addStreet(1, 2, 10, true);
-        x.addRound(21);
+        x.addRound(22);
         x.addRound(41);
         for (int street = 0; street < 2; street++) {
             x.addHouse(street, 0, 5);
             x.assign(street, street);
-            x.letters(street, 1);
         }
+        withPast(x);
+        x.letters(0, 1);
+        x.letters(1, 1);
+        x.parcel(0, 6, 1);
+        return x;
+    }
+
+    /** Rounds of five and four passes, on their second day; of two parcels, the last waits for the van. */
+    static Candleford fiveAndFour() {
+        Candleford x = ofParallelStreets(0, 0, 0, 0, 0, 1, 1, 1, 1);
+        x.newDay();
+        withPast(x);
+        for (int house = 0; house < 9; house++) {
+            x.letters(house, 1);
+        }
+        x.parcel(8, 7, 9);
+        return x;
+    }
+
+    /** On the second day, when no house is due; of two parcels, the last waits for the van. */
+    static Candleford noneDue() {
+        Candleford x = ofOneStreet(10, true);
+        x.addHouse(0, 0, 5);
+        x.addHouse(0, 1, 5);
+        withPast(x);
+        x.parcel(1, 7, 9);
+        return x;
+    }
+
+    /** A round was made with a letter and a parcel, but the van has made no trip; of two that wait, one is for it. */
+    static Candleford noTrips() {
+        Candleford x = ofOneStreet(10, true);
+        x.addHouse(0, 0, 5);
+        x.addHouse(0, 1, 5);
+        x.setBag(6);
+        x.letters(0, 1);
+        x.parcel(0, 6, 9);
+        x.deliver(0);
+        x.letters(0, 2);
+        x.letters(1, 3);
+        x.parcel(1, 7, 9);
+        x.parcel(1, 6, 9);
         return x;
     }
 }
