@@ -91,6 +91,17 @@ public final class VillageEdgesTest {
         Check.noSuch("assign the street 16", () -> x.assign(16, 0));
         Check.due(0, "houseAt the last street", () -> x.houseAt(15, 1, 0));
         Check.noSuch("houseAt the street 16", () -> x.houseAt(16, 1, 0));
+        Candleford y = Villages.ofPlaces(2);
+        y.addRound(99);
+        for (int street = 0; street < 16; street++) {
+            int length = 20 - street;
+            y.addStreet(street % 2, 1 - street % 2, length, true);
+            distanceIs(y, length, 0, 1);
+        }
+        y.addHouse(0, 0, 3);
+        y.assign(0, 0);
+        y.letters(0, 1);
+        Check.due(25, "walkLength by the first street and back by the last", () -> y.walkLength(0));
     }
 
     /** "A street connects two different places". */

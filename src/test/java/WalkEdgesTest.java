@@ -42,6 +42,7 @@ public final class WalkEdgesTest {
         walkToOfNoRound();
         walkToWithoutWalk();
         eachRoundAnew();
+        walkToAnew();
         Check.end();
     }
 
@@ -471,6 +472,20 @@ public final class WalkEdgesTest {
         }
         passesAre(y, 0, 0, 2);
         placesAre(y, 0, 0, 2, 0, 1, 0);
+        // It is the number that tells, not whether a street is wide or narrow.
+        for (boolean isFirstWide : new boolean[] {true, false}) {
+            Candleford z = Villages.ofPlaces(3);
+            z.addStreet(0, 2, 10, isFirstWide);
+            z.addStreet(0, 1, 10, !isFirstWide);
+            z.addRound(99);
+            for (int street = 0; street < 2; street++) {
+                z.addHouse(street, 0, 1);
+                z.assign(street, 0);
+                z.letters(street, 1);
+            }
+            passesAre(z, 0, 0, 2);
+            placesAre(z, 0, 0, 2, 0, 1, 0);
+        }
     }
 
     private static void lowerPassWhereTheyDiffer() {
@@ -882,6 +897,30 @@ public final class WalkEdgesTest {
             Check.due(51, "walkTo of the other", () -> x.walkTo(3));
             Check.due(14, "walkTime of the one", () -> x.walkTime(0));
             Check.due(213, "walkTime of the other", () -> x.walkTime(1));
+        }
+    }
+
+    /** walkTo: "the walk of the round" as it is now: a pass begins earlier or later than when it was asked before. */
+    private static void walkToAnew() {
+        Candleford x = Villages.ofPlaces(3);
+        x.addRound(999);
+        x.addRound(999);
+        x.addStreet(0, 1, 10, true);
+        x.addStreet(0, 2, 20, true);
+        for (int street = 0; street < 2; street++) {
+            x.addHouse(street, 0, 1);
+            x.assign(street, 0);
+        }
+        x.letters(1, 1);
+        for (int i = 0; i < 2; i++) {
+            Check.due(1, "walkTo by the first pass", () -> x.walkTo(1));
+            x.letters(0, 1);
+            Check.due(21, "walkTo by the second pass", () -> x.walkTo(1));
+            x.assign(0, 1);
+            Check.due(1, "walkTo by the only pass", () -> x.walkTo(1));
+            Check.due(1, "walkTo by the only pass of another round", () -> x.walkTo(0));
+            x.deliver(1);
+            x.assign(0, 0);
         }
     }
 }
